@@ -45,6 +45,9 @@ public final class InstructorTest {
         Check.due("instructors", x.instructors(), 6);
         Check.due("the smallest free number", x.hire(5, 1, 6, 100), 3);
         Check.due("the next", x.hire(5, 1, 6, 100), 6);
+        Check.due("the last one has earnings", x.earnings(7), 0);
+        Check.due("the last one is dismissed", x.dismiss(7), NONE);
+        Check.due("the last one is gone", x.earnings(7), BAD);
     }
 
     private static void hireErrors() {

@@ -15,6 +15,8 @@ public final class LiftTest {
         simulateSharedSeats();
         simulateOrderOfQueue();
         simulateProgramme();
+        simulateFourGroups();
+        simulateFourStopsAtThreeLifts();
         simulateInstructor();
         simulateWhoTakesPart();
         simulateLateStart();
@@ -219,6 +221,50 @@ public final class LiftTest {
         x.addStop(0, 1, 4);
         results(x, 11, 3, 3, 2, 0, 0);
         Check.due("carried(1)", x.carried(1), 2);
+    }
+
+    /** All groups wait in one queue, and one departure takes them all. */
+    private static void simulateFourGroups() {
+        SkiSchool x = with("g0a1;g2a1;g4a1;g6a1;p0a;p2a;p4a;p6a;");
+        x.addLift(4, 10, 1);
+        for (int g = 0; g < 4; g++) {
+            x.addStop(g, 0, 20);
+            x.setStart(g, 4 - g);
+        }
+        Check.due("simulate", x.simulate(10), 6 + 7 + 8 + 9);
+        Check.due("longestQueue", x.longestQueue(0), 4);
+        Check.due("carried", x.carried(0), 0);
+        Check.due("simulate", x.simulate(11), 6 + 7 + 8 + 9);
+        Check.due("carried", x.carried(0), 4);
+        for (int g = 0; g < 4; g++) {
+            Check.due("rides", x.rides(g), 1);
+            Check.due("waited", x.waited(g), 6 + g);
+        }
+    }
+
+    private static void simulateFourStopsAtThreeLifts() {
+        SkiSchool x = with("g1a1;p1a;");
+        x.addLift(1, 1, 1);
+        x.addLift(1, 1, 2);
+        x.addLift(1, 1, 3);
+        x.addStop(0, 2, 1);
+        x.addStop(0, 1, 2);
+        x.addStop(0, 0, 3);
+        x.addStop(0, 2, 7);
+        int[] departures = {0, 4, 8, 12, 22, 26};
+        int[] lifts = {2, 1, 0, 2, 2, 1};
+        int[] carried = new int[3];
+        for (int n = 0; n < departures.length; n++) {
+            Check.due("before the departure", x.simulate(Math.max(1, departures[n])), 0);
+            Check.due("rides", x.rides(0), Math.max(1, n));
+            carried[lifts[n]]++;
+            x.simulate(departures[n] + 1);
+            Check.due("rides", x.rides(0), n + 1);
+            for (int l = 0; l < 3; l++) {
+                Check.due("carried", x.carried(l), carried[l]);
+                Check.due("longestQueue", x.longestQueue(l), 0);
+            }
+        }
     }
 
     private static void simulateInstructor() {

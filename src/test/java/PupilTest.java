@@ -8,6 +8,7 @@ public final class PupilTest {
         addPupilOutOfRange();
         addPupilFull();
         addPupilBreaksFamily();
+        addPupilAfterRemoval();
         removePupil();
         getters();
         setTogether();
@@ -105,6 +106,22 @@ public final class PupilTest {
         Check.due("group", x.group(1), NONE);
         Check.due("group", x.group(2), 0);
         Check.due("placed", x.placed(), 1);
+    }
+
+    /** Nothing of the pupil who had the number before is left. */
+    private static void addPupilAfterRemoval() {
+        SkiSchool x = new SkiSchool();
+        x.openGroup(2, 0, 6);
+        x.addPupil(2, 1, 4);
+        Check.due("assign", x.assign(), 1);
+        x.score(0, 0, 5);
+        x.removePupil(0);
+        Check.due("addPupil", x.addPupil(2, 1, NONE), 0);
+        Check.due("group", x.group(0), NONE);
+        Check.due("scoreOf", x.scoreOf(0, 0), NONE);
+        Check.due("placed", x.placed(), 0);
+        Check.due("size", x.size(0), 0);
+        Check.due("spread", x.spread(4), NONE);
     }
 
     private static void removePupil() {
@@ -240,7 +257,12 @@ public final class PupilTest {
         x.removePupil(2);
         Check.due("two left", x.spread(0), 4);
         x.removePupil(1);
+        Check.due("one at level 0", x.spread(0), 0);
         x.removePupil(3);
         Check.due("none left", x.spread(0), NONE);
+        x.removePupil(0);
+        x.addPupil(2, 1, 0);
+        x.addPupil(4, 1, 0);
+        Check.due("with pupil 0", x.spread(0), 2);
     }
 }

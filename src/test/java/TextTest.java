@@ -19,6 +19,7 @@ public final class TextTest {
         loadKeepsText();
         digestOfNewObject();
         digestSeesEachValue();
+        digestOfNumberZero();
         Check.end();
     }
 
@@ -294,5 +295,19 @@ public final class TextTest {
         Check.due("rides", x.rides(1), 1);
         Check.due("longestQueue", x.longestQueue(0), 1);
         Check.due("carried", x.carried(0), 2);
+    }
+
+    private static void digestOfNumberZero() {
+        SkiSchool x = new SkiSchool();
+        Check.due("load", Check.load(x, "p3a;g3a3;ia07:5;"), 3);
+        x.assign();
+        x.staff();
+        x.pay(2);
+        Check.due("digest", x.digest(), hash(0, 1, 1, 1,
+            0, 3, 1, NONE, 0, -9, -9, -9, -9,
+            -9, -9, -9, -9, -9, -9, -9, -9,
+            0, 3, 1, 0, 0, 0,
+            0, 10,
+            1, 0, 16));
     }
 }

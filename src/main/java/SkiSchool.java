@@ -12,7 +12,7 @@ public final class SkiSchool {
     private static final int MOST_PUPILS = 20, MOST_GROUPS = 4, MOST_INSTRUCTORS = 8, MOST_LIFTS = 3;
     private static final int TOP_LEVEL = 7, LANGUAGES = 6, ALL_LANGUAGES = 63, FAMILIES = 8;
     private static final int EXERCISES = 4, MOST_POINTS = 10, MOST_PASS = 40;
-    private static final int MOST_CAPACITY = 6, MOST_WAGE = 999999, MOST_HOURS = 100;
+    private static final int MOST_CAPACITY = 6, MOST_WAGE = 999999, MOST_HOURS = 100, MOST_EARNINGS = 2147483647;
     private static final int MOST_SEATS = 8, MOST_INTERVAL = 10, MOST_RIDE = 20, MOST_SLOPE = 20;
     private static final int MOST_STOPS = 4, LATEST_START = 60, LATEST_BEST_START = 30, MOST_MINUTES = 180;
     private static final int MOST_TEXT = 100, FIRST_CODE = 32, LAST_CODE = 126, FAULT_BASE = -10;
@@ -459,12 +459,12 @@ public final class SkiSchool {
         }
         countPersons();
         int best = 0;
-        int least = Integer.MAX_VALUE;
+        int least = NONE;
         for (int start = 0; start <= LATEST_BEST_START; start++) {
             simulation.begin(groupAt);
             simulation.arrival[group] = start;
             simulation.run(groupAt, liftAt, liftCount, minutes);
-            if (simulation.waited[group] < least) {
+            if (least == NONE || simulation.waited[group] < least) {
                 least = simulation.waited[group];
                 best = start;
             }
@@ -848,7 +848,7 @@ public final class SkiSchool {
         }
 
         boolean hasRoomFor(int hours) {
-            return (long) earned + (long) wage * hours <= Integer.MAX_VALUE;
+            return (long) earned + (long) wage * hours <= MOST_EARNINGS;
         }
     }
 
@@ -1038,16 +1038,19 @@ public final class SkiSchool {
 
     /** Finds the best staffing by trying the instructors by ascending numbers, the groups likewise. */
     private static final class Staffing {
+        /** More than any staffing costs. */
+        private static final int TOO_DEAR = MOST_GROUPS * MOST_WAGE + 1;
+
         final boolean[] wanted = new boolean[MOST_GROUPS];
         final int[] best = new int[MOST_GROUPS];
         private final int[] trial = new int[MOST_GROUPS];
-        private int cheapest = Integer.MAX_VALUE;
+        private int cheapest = TOO_DEAR;
 
         /** Returns the cost, or NONE if there is no staffing. */
         int findBest(Group[] groups, Instructor[] instructors) {
-            cheapest = Integer.MAX_VALUE;
+            cheapest = TOO_DEAR;
             tryFrom(this, 0, 0, 0, groups, instructors);
-            return cheapest == Integer.MAX_VALUE ? NONE : cheapest;
+            return cheapest == TOO_DEAR ? NONE : cheapest;
         }
 
         /** Only a smaller cost replaces the best one: among equals the first one tried is due. */
@@ -1135,6 +1138,9 @@ public final class SkiSchool {
             int free = departing.seats;
             for (int turn = 0; turn < MOST_GROUPS && free > 0 && queued[lift] > 0; turn++) {
                 int front = queue[lift][0];
+                if (!within(front, 0, MOST_GROUPS - 1)) {
+                    return;
+                }
                 int boarding = Math.min(free, waiting[front]);
                 waiting[front] -= boarding;
                 free -= boarding;
@@ -1168,8 +1174,10 @@ public final class SkiSchool {
             int length = 0;
             for (int k = 0; k < queued[lift] && k < MOST_GROUPS; k++) {
                 int group = queue[lift][k];
-                length += waiting[group];
-                waited[group] += waiting[group];
+                if (within(group, 0, MOST_GROUPS - 1)) {
+                    length += waiting[group];
+                    waited[group] += waiting[group];
+                }
             }
             longest[lift] = Math.max(longest[lift], length);
         }
@@ -1300,11 +1308,15 @@ public final class SkiSchool {
 
         /** Returns the character here and goes past it, or 0 if none from first to last stands here. */
         private int readSign(int first, int last) {
-            if (!within(at, 0, MOST_TEXT - 1) || at >= length || !within(text[at], first, last)) {
+            if (at < 0 || at >= length || at >= MOST_TEXT) {
+                return 0;
+            }
+            char sign = text[at];
+            if (sign < first || sign > last) {
                 return 0;
             }
             at++;
-            return text[at - 1];
+            return sign;
         }
     }
 }

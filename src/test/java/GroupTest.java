@@ -16,6 +16,7 @@ public final class GroupTest {
         assignSmallestNumbers();
         assignOrdersByPupilNotByCount();
         assignKeepsFamilies();
+        assignCountsPupilsNotFamilies();
         assignFamilyTooLarge();
         assignStaysWithInstructors();
         assignFullHouse();
@@ -233,6 +234,18 @@ public final class GroupTest {
         x.setTogether(1, false);
         Check.due("one kept, one free", x.assign(), 3);
         groupsAre(x, "the free family spreads", 0, NONE, 0, NONE, 1, NONE);
+    }
+
+    private static void assignCountsPupilsNotFamilies() {
+        SkiSchool x = with("g3a2;p3a;p3a;p3a/0;p3a/0;");
+        x.setTogether(0, true);
+        Check.due("assign", x.assign(), 2);
+        groupsAre(x, "two alone are as good as a family of two", 0, 0, NONE, NONE);
+        SkiSchool y = with("g3a2;p3a;p4a;p4a/0;p3a/0;p3a/1;p3a/1;");
+        y.setTogether(0, true);
+        y.setTogether(1, true);
+        Check.due("assign", y.assign(), 2);
+        groupsAre(y, "own levels are counted by pupils", NONE, NONE, NONE, NONE, 0, 0);
     }
 
     private static void assignFamilyTooLarge() {

@@ -9,6 +9,7 @@ public final class InstructorTest {
         dismiss();
         canTeach();
         staffCheapest();
+        staffDearest();
         staffSmallestNumbers();
         staffInactiveGroups();
         staffImpossible();
@@ -112,6 +113,19 @@ public final class InstructorTest {
         Check.due("instructor", x.instructor(0), 1);
         Check.due("instructor", x.instructor(1), 5);
         Check.due("the old one has no group", x.dismiss(2), NONE);
+    }
+
+    /** Four active groups, and each instructor at the highest wage there is. */
+    private static void staffDearest() {
+        SkiSchool x = with("p1a;p1a;p1a;p1a;g1a1;g1a1;g1a1;g1a1;");
+        for (int n = 0; n < 4; n++) {
+            x.hire(1, 0, 7, 999999);
+        }
+        Check.due("staff", x.staff(), 4 * 999999);
+        for (int n = 0; n < 4; n++) {
+            Check.due("instructor", x.instructor(n), n);
+        }
+        Check.due("pay", x.pay(100), 4 * 99999900);
     }
 
     private static void staffSmallestNumbers() {

@@ -264,5 +264,9 @@ public final class PupilTest {
         x.addPupil(2, 1, 0);
         x.addPupil(4, 1, 0);
         Check.due("with pupil 0", x.spread(0), 2);
+        x.addPupil(7, 1, 5);
+        Check.due("one at level 7", x.spread(5), 0);
+        x.addPupil(7, 1, 5);
+        Check.due("all at level 7", x.spread(5), 0);
     }
 }

@@ -11,6 +11,7 @@ public final class TextTest {
         faultsOfLaterEntries();
         faultChangesNothing();
         faultOfFullText();
+        faultAtTheEndOfAShorterText();
         loadPupils();
         loadGroups();
         loadInstructors();
@@ -172,6 +173,16 @@ public final class TextTest {
         SkiSchool x = new SkiSchool();
         Check.due("load of 100 characters", Check.load(x, text + "p3a;"), 20);
         Check.due("pupils", x.pupils(), 20);
+    }
+
+    /** What stood in an earlier text does not complete the entry. */
+    private static void faultAtTheEndOfAShorterText() {
+        SkiSchool x = new SkiSchool();
+        Check.due("load", Check.load(x, "p3a;g3a1;"), 2);
+        Check.due("load", Check.load(x, "p3a"), -13);
+        Check.due("load", Check.load(x, "p3a;g3a"), -17);
+        Check.due("load", Check.load(x, "p3a;"), 1);
+        Check.due("pupils", x.pupils(), 2);
     }
 
     private static void loadPupils() {

@@ -2,8 +2,19 @@
 final class Check {
     private static int right = 0;
     private static int wrong = 0;
+    private static String about = "";
 
     private Check() {
+    }
+
+    /** What is checked from now on is printed with the name of its test ahead. */
+    static void begin(String test) {
+        about = test + ": ";
+    }
+
+    /** How many answers have been looked at so far. */
+    static int seen() {
+        return right + wrong;
     }
 
     static void due(String call, long got, long want) {
@@ -11,7 +22,7 @@ final class Check {
             right++;
         } else {
             wrong++;
-            System.out.println(call + " answered " + got + ", due is " + want);
+            System.out.println(about + call + " answered " + got + ", due is " + want);
         }
     }
 

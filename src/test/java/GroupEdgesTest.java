@@ -212,6 +212,15 @@ public final class GroupEdgesTest {
         }
     }
 
+    @Edge(promise = 17, says = "Its pupils have no group then")
+    static void theFirstAndTheLastPupilLeave() {
+        SkiSchool x = Schools.assigned("g3b2;g3a6;g3a6;g3a6;p3b;" + "p3a;".repeat(18) + "p3b;");
+        Check.due("closeGroup", x.closeGroup(0), 2);
+        Check.due("group", x.group(0), NONE);
+        Check.due("group", x.group(19), NONE);
+        Check.due("the others stay", x.placed(), 18);
+    }
+
     @Edge(promise = 17, says = "its instructor has no group then")
     static void theInstructorOfAClosedGroup() {
         SkiSchool x = waiting();

@@ -455,6 +455,25 @@ public final class InstructorEdgesTest {
     }
 
     @Edge(promise = 32, says = "FULL if the earnings of one of them would be greater than 2147483647")
+    static void nobodyIsPaidIfOneOfFourIsFull() {
+        for (int rich = 0; rich < 4; rich++) {
+            StringBuilder four = new StringBuilder(FOUR_ACTIVE);
+            for (int n = 0; n < 4; n++) {
+                four.append("ia").append(2 * n).append(2 * n).append(n == rich ? ":999999;" : ":2;");
+            }
+            Supplier<SkiSchool> paid = () -> {
+                SkiSchool x = Schools.staffed(four.toString());
+                for (int n = 0; n < 21; n++) {
+                    x.pay(100);
+                }
+                return x;
+            };
+            Twins.noTrace("48 hours with instructor " + rich + " rich", paid, x -> x.pay(48), FULL);
+            Check.due("47 hours", paid.get().pay(47), 47 * (999999 + 6));
+        }
+    }
+
+    @Edge(promise = 32, says = "FULL if the earnings of one of them would be greater than 2147483647")
     static void theRichOneIsNotToBePaid() {
         SkiSchool x = rich("ia07:1;", "ib07:999999;");
         x.removePupil(1);

@@ -2,7 +2,7 @@ import java.util.function.Supplier;
 
 /** The boundary cases of promises 34 to 43, and of "Lifts". */
 public final class LiftEdgesTest {
-    private static final int NONE = SkiSchool.NONE, BAD = SkiSchool.BAD, STATE = SkiSchool.STATE, FULL = SkiSchool.FULL;
+    private static final int BAD = SkiSchool.BAD, STATE = SkiSchool.STATE, FULL = SkiSchool.FULL;
 
     public static void main(String[] args) {
         Edges.run(LiftEdgesTest.class);
@@ -338,6 +338,30 @@ public final class LiftEdgesTest {
         Check.due("rides(0)", x.rides(0), 0);
         x.clearStops(1);
         run("nobody takes part", x, 180, each(0, 0), each(0, 0), 0, 0);
+    }
+
+    @Edge(promise = 0, says = "All of them are 0 at first")
+    static void theResultsOfWhatIsNewAfterASimulation() {
+        SkiSchool x = new SkiSchool();
+        x.simulate(180);
+        Schools.add(x, "g3a2;p3a;p3a;");
+        x.addLift(1, 10, 20);
+        x.assign();
+        x.addStop(0, 0, 1);
+        Check.due("the first lift", x.longestQueue(0), 0);
+        Check.due("the first lift", x.carried(0), 0);
+        Check.due("the first group", x.waited(0), 0);
+        Check.due("the first group", x.rides(0), 0);
+        x.simulate(180);
+        Schools.add(x, "g3a2;");
+        x.addLift(1, 10, 20);
+        x.addLift(1, 10, 20);
+        for (int lift = 1; lift < 3; lift++) {
+            Check.due("longestQueue(" + lift + ")", x.longestQueue(lift), 0);
+            Check.due("carried(" + lift + ")", x.carried(lift), 0);
+        }
+        Check.due("the second group", x.waited(1), 0);
+        Check.due("the second group", x.rides(1), 0);
     }
 
     @Edge(promise = 0, says = "The results of the latest simulation are kept")
@@ -748,11 +772,5 @@ public final class LiftEdgesTest {
             x.setStart(0, start);
             Check.due("with the start " + start, x.bestStart(0, 17), 17);
         }
-    }
-
-    @Edge(promise = 0, says = "NONE is not an error code; it means that there is no such thing.")
-    static void noneIsNoNumber() {
-        Twins.noTrace("waited", Schools::full, x -> x.waited(NONE), BAD);
-        Twins.noTrace("carried", Schools::full, x -> x.carried(NONE), BAD);
     }
 }

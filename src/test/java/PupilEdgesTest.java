@@ -174,6 +174,17 @@ public final class PupilEdgesTest {
         Check.due("nobody leaves", x.placed(), 2);
     }
 
+    @Edge(promise = 0, says = "If a call of addPupil, grade or setTogether would break this rule, all members of that family leave")
+    static void thePupilWithTheGreatestNumberBreaksTheRule() {
+        SkiSchool x = keeping("g3a6;p3a/4;" + "p0a;".repeat(18), 4);
+        Check.due("placed", x.placed(), 1);
+        Check.due("addPupil", x.addPupil(3, 1, 4), 19);
+        Check.due("the first one leaves", x.group(0), NONE);
+        SkiSchool y = Schools.assigned("g3a1;g3a1;p3a/4;" + "p0a;".repeat(18) + "p3a/4;");
+        Check.due("setTogether", y.setTogether(4, true), 2);
+        Check.due("the last one leaves", y.group(19), NONE);
+    }
+
     @Edge(promise = 0, says = "which means that they have no group any more")
     static void theGroupIsEmptyWhenAFamilyHasLeft() {
         SkiSchool x = keeping("g3a2;p3a/0;p3a/0;ia07:5;", 0);

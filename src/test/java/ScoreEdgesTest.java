@@ -467,6 +467,16 @@ public final class ScoreEdgesTest {
     }
 
     @Edge(promise = 0, says = "If a call of addPupil, grade or setTogether would break this rule")
+    static void gradeOfThePupilWithTheGreatestNumber() {
+        SkiSchool x = Schools.of("g3a6;p3a/0;" + "p0a;".repeat(18) + "p4a/0;");
+        x.setTogether(0, true);
+        Check.due("assign", x.assign(), 2);
+        pass(x, 19);
+        Check.due("the last one leaves", x.group(19), NONE);
+        Check.due("the first one leaves", x.group(0), NONE);
+    }
+
+    @Edge(promise = 0, says = "If a call of addPupil, grade or setTogether would break this rule")
     static void gradeOfTheOnlyMemberOfAKeptFamily() {
         SkiSchool x = familyInGroup3(true, "p4a/2;p3a;");
         pass(x, 1);
@@ -496,9 +506,9 @@ public final class ScoreEdgesTest {
     // ---- Promise 15: nextDay
 
     @Edge(promise = 15, says = "Returns the number of the new day")
-    static void theDaysFrom1To500() {
+    static void theDaysFrom1To512() {
         SkiSchool x = new SkiSchool();
-        for (int day = 1; day <= 500; day++) {
+        for (int day = 1; day <= 512; day++) {
             Check.due("nextDay", x.nextDay(), day);
         }
     }

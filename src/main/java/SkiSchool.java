@@ -902,7 +902,7 @@ public final class SkiSchool {
                 value[state] = 0;
                 choices[state] = 0;
             }
-            for (int u = units - 1; u >= 0; u--) {
+            for (int u = Math.min(units, MOST_PUPILS) - 1; u >= 0; u--) {
                 chooseFor(u);
             }
             followChoices();
@@ -911,7 +911,11 @@ public final class SkiSchool {
 
         int groupOf(int pupil) {
             int unit = within(pupil, 0, MOST_PUPILS - 1) ? unitOf[pupil] : NONE;
-            return within(unit, 0, MOST_PUPILS - 1) ? given[unit] : NONE;
+            return isUnit(unit) ? given[unit] : NONE;
+        }
+
+        private static boolean isUnit(int number) {
+            return within(number, 0, MOST_PUPILS - 1);
         }
 
         private void gatherUnits(Pupil[] pupils, Group[] groups, boolean[] together) {
@@ -946,6 +950,9 @@ public final class SkiSchool {
         }
 
         private void addHead(int unit, Pupil pupil, Group[] groups) {
+            if (!isUnit(unit)) {
+                return;
+            }
             heads[unit]++;
             for (int g = 0; g < MOST_GROUPS; g++) {
                 if (!groups[g].open || !groups[g].suits(pupil)) {
@@ -961,7 +968,7 @@ public final class SkiSchool {
             states = 1;
             for (int g = 0; g < MOST_GROUPS; g++) {
                 int wanted = 0;
-                for (int u = 0; u < units; u++) {
+                for (int u = 0; u < units && u < MOST_PUPILS; u++) {
                     if (out[u][g] != UNFIT) {
                         wanted += heads[u];
                     }
@@ -971,6 +978,7 @@ public final class SkiSchool {
                 stride[g] = states;
                 states *= seats[g] + 1;
             }
+            states = Math.max(1, Math.min(states, MOST_STATES));
         }
 
         /** Puts a unit ahead of those seen so far, from the last state on: a choice looks at smaller ones only. */
@@ -986,7 +994,7 @@ public final class SkiSchool {
                 for (int k = 0; k < count; k++) {
                     int g = options[k];
                     int rest = state - heads[unit] * stride[g];
-                    if (left[g] >= heads[unit] && rest >= 0) {
+                    if (left[g] >= heads[unit] && rest >= 0 && rest < states) {
                         int reached = value[rest] + heads[unit] * PLACED - out[unit][g];
                         if (reached >= best) {
                             best = reached;
@@ -1025,7 +1033,7 @@ public final class SkiSchool {
 
         private void followChoices() {
             int state = states - 1;
-            for (int u = 0; u < units; u++) {
+            for (int u = 0; u < units && u < MOST_PUPILS; u++) {
                 int choice = (int) (choices[state] >>> CHOICE_BITS * u) & CHOICE_MASK;
                 given[u] = NONE;
                 if (within(choice, 1, MOST_GROUPS)) {

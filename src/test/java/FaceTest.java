@@ -37,6 +37,8 @@ public final class FaceTest {
         "\\bpublic (?!final class SkiSchool|SkiSchool\\(|int |long |static final int )", "\\bprotected\\b",
         "^package", "^import (?!java\\.util\\.Arrays;)", "\\bclass \\w+ (extends|implements)", "\\?\\s*>"
     };
+    /** A field's initialiser, or a row that the constructor fills: all calls of a run share one room. */
+    private static final String MAKING = " {4,8}(private )?final .* = new .*;| {12}\\w+At\\[n\\] = new \\w+\\(\\);";
     private static final int LONGEST_METHOD = 60;
 
     public static void main(String[] args) throws IOException {
@@ -127,6 +129,8 @@ public final class FaceTest {
             for (String word : RULED_OUT) {
                 Check.holds("'" + word + "' in: " + line, !Pattern.compile(word).matcher(code).find());
             }
+            boolean makes = Pattern.compile("\\bnew\\b|\\bclone\\(|\\bcopyOf").matcher(code).find();
+            Check.holds("only a new school makes objects: " + line, !makes || code.matches(MAKING));
             boolean begins = line.matches(" {4,8}(public|private|static|final|int|long|boolean|void|char).*\\) \\{");
             length = begins ? 1 : length + 1;
             boolean ends = line.equals("    }") || line.equals("        }");
